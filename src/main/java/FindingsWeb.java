@@ -158,9 +158,7 @@ public final class FindingsWeb {
 
     public long both(int node, int v, int other, int w, int line) {
         if (!web.hasValue(node, v) || !web.hasValue(other, w) || !isLine(line)) return NO;
-        long all = worlds.weighAll(web);
-        if (all == 0) return STATE;
-        return fraction(worlds.weighBoth(web, node, v, other, w), all, line);
+        return fraction(worlds.weighBoth(web, node, v, other, w), worlds.weighAll(web), line);
     }
 
     public long shown(int sheet, int line) {
@@ -168,7 +166,6 @@ public final class FindingsWeb {
         Sheet s = sheets[sheet];
         if (s.isMissing() || !tellsValues(s)) return NO;
         long all = worlds.weighAll(web);
-        if (all == 0) return STATE;
         for (int i = 0; i < web.size; i++) worlds.wanted[i] = (int) s.items[i];
         return fraction(worlds.weighWanted(web), all, line);
     }
@@ -204,9 +201,7 @@ public final class FindingsWeb {
 
     public long tells(int node, int other, int line) {
         if (!web.has(node) || !web.has(other) || node == other || !isLine(line)) return NO;
-        long all = worlds.weighAll(web);
-        if (all == 0) return STATE;
-        return fraction(worlds.weighGuesses(web, node, other), all, line);
+        return fraction(worlds.weighGuesses(web, node, other), worlds.weighAll(web), line);
     }
 
     public int telling(int node) {
@@ -285,7 +280,7 @@ public final class FindingsWeb {
             fit++;
             if (worlds.world[node] == v) hits++;
         }
-        return fit == 0 ? STATE : (int) fraction(hits, fit, line);
+        return (int) fraction(hits, fit, line);
     }
 
     public int film(int sheet) {
@@ -390,8 +385,9 @@ public final class FindingsWeb {
         return sort >= LONGS && sort <= BYTES;
     }
 
-    /** A line of above over below (above nothing, below 1 at least) in lowest terms. */
+    /** A line of above over below in lowest terms; STATE, if there is nothing below. */
     private static long fraction(long above, long below, int line) {
+        if (below == 0) return STATE;
         long common = greatestDivisor(above, below);
         if (common == 0) return STATE;
         return (line == 0 ? above : below) / common;
@@ -409,9 +405,7 @@ public final class FindingsWeb {
     }
 
     private long oddsIn(Web some, int node, int v, int line) {
-        long all = worlds.weighAll(some);
-        if (all == 0) return STATE;
-        return fraction(worlds.weighBoth(some, node, v, node, v), all, line);
+        return fraction(worlds.weighBoth(some, node, v, node, v), worlds.weighAll(some), line);
     }
 
     private boolean tellsValues(Sheet s) {

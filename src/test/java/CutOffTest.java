@@ -6,6 +6,8 @@ public final class CutOffTest {
         promise20Collider();
         promise20Below();
         promise20Done();
+        promise20BelowByTheSecond();
+        promise20LongWays();
         promise20NoNodeTwice();
         promise20WrongNumbers();
         promise21Tells();
@@ -77,6 +79,39 @@ public final class CutOffTest {
         apart(x, 0, 1, 0);
         x.done(3, 0);
         apart(x, 0, 1, 1);
+    }
+
+    /** NODE 2 is the second PARENT of 5, which is told. */
+    private static void promise20BelowByTheSecond() {
+        FindingsWeb x = Check.web("node 2 9 9;node 2 9 9;node 2 0 1;node 2 9 9;node 2 9 9", "node 2 3 2;told 5 1");
+        apart(x, 0, 1, 0);
+        x.done(5, 1);
+        apart(x, 0, 1, 1);
+        x.done(5, -1);
+        x.told(5, -1);
+        apart(x, 0, 1, 1);
+        x.told(3, 1);
+        x.told(4, 1);
+        apart(x, 0, 1, 1);
+        FindingsWeb y = Check.web("node 2 9 9;node 2 9 9;node 2 0 1;node 2 9 9;node 2 3 0", "told 4 1");
+        apart(y, 0, 1, 1);
+        apart(y, 0, 3, 0);
+    }
+
+    private static void promise20LongWays() {
+        FindingsWeb x = new FindingsWeb();
+        for (int i = 0; i < 7; i++) x.node(2, 0, i - 1, -1);
+        apart(x, 0, 6, 0);
+        x.told(3, 1);
+        apart(x, 0, 6, 1);
+        apart(x, 0, 2, 0);
+        FindingsWeb y = Check.web("node 2 9 9;node 2 9 9;node 2 9 9;node 2 9 9", "node 2 0 1;node 2 1 2;node 2 2 3", "hint 4 1 2 1;hint 5 1 2 1");
+        apart(y, 0, 3, 1);
+        apart(y, 0, 2, 0);
+        y.told(6, 0);
+        apart(y, 0, 3, 0);
+        y.told(2, 0);
+        apart(y, 0, 3, 1);
     }
 
     private static void promise20Done() {

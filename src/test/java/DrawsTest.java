@@ -176,6 +176,8 @@ public final class DrawsTest {
         x.row(1, 1, 12, 0, 0);
         x.node(3, 1, 2, 1);
         x.told(3, 2);
+        x.done(3, 1);
+        x.hint(3, 0, 3, 3);
         for (int again = 0; again < 2; again++) {
             Check.due("back", x.back(), 3);
             Check.due("no fourth", x.of(3, 0), FindingsWeb.BAD);
@@ -183,8 +185,10 @@ public final class DrawsTest {
             Check.due("done", x.of(1, 5), FindingsWeb.NONE);
             Check.due("hint", x.of(1, 6), 0);
             Check.due("row", x.cell(1, 1, 2), 9);
+            Check.that("as it was", Check.line(x, 2).equals("2/2 sum <1,0"));
             Check.due("what comes then is new", x.node(2, 0, -1, -1), 3);
-            Check.due("without a FINDING", x.of(3, 4), FindingsWeb.NONE);
+            Check.that("with nothing told", Check.line(x, 3).equals("3/2"));
+            Check.due("it counts 1 each", x.odds(3, 1, 0) * 10 + x.odds(3, 1, 1), 12);
             Check.due("a TABLE", x.cell(3, 0, 1), 6);
         }
         Check.due("kept anew", x.image(), 4);
@@ -224,6 +228,10 @@ public final class DrawsTest {
         x.feed(1);
         int[] then = {5, 2, 1, 3, 2, 1, 72};
         for (int what = 0; what < 7; what++) Check.due("count " + what, x.count(what), then[what]);
+        x.done(0, 0);
+        x.done(4, 0);
+        Check.due("DONE", x.count(2), 3);
+        Check.due("NEAR", x.count(5), 0);
         Check.due("what", x.count(7), FindingsWeb.BAD);
         Check.due("what", x.count(-1), FindingsWeb.BAD);
     }

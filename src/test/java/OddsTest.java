@@ -8,10 +8,12 @@ public final class OddsTest {
         promise16Shown();
         promise16WrongSheets();
         promise17Would();
+        promise17And18OfThree();
         promise18Without();
         promise18Hints();
         promise19Likely();
         promise19Ties();
+        promise19FactorsOfOne();
         Check.end("OddsTest");
     }
 
@@ -207,6 +209,31 @@ public final class OddsTest {
         for (int[] n : none) Check.due("a number", x.without(n[0], n[1], n[2], n[3]), FindingsWeb.NO);
     }
 
+    /** NODES of three values, with two PARENTS, in thought as in truth. */
+    private static void promise17And18OfThree() {
+        FindingsWeb x = Check.web("node 3 9 9;node 3 9 9;node 3 0 1;sum 3 2 0");
+        for (int row = 0; row < 9; row++) x.row(2, row, row, 0, 12 - row);
+        x.told(0, 1);
+        x.told(1, 1);
+        would(x, 3, 2, 2, 0, 1, 3);
+        would(x, 2, 2, 3, 0, 1, 1);
+        x.told(1, 2);
+        would(x, 3, 2, 2, 0, 5, 12);
+        would(x, 3, 1, 2, 0, 5, 12);
+        without(x, 0, 2, 0, 5, 12);
+        without(x, 1, 2, 0, 1, 3);
+        x.told(1, -1);
+        x.hint(1, 1, 1, 4);
+        without(x, 0, 1, 2, 2, 3);
+        without(x, 1, 1, 2, 1, 3);
+        x.hint(1, 4, 1, 1);
+        without(x, 1, 1, 2, 1, 3);
+        without(x, 1, 1, 0, 1, 3);
+        x.hint(1, 7, 7, 7);
+        x.told(1, 0);
+        without(x, 1, 1, 0, 1, 3);
+    }
+
     private static void promise18Hints() {
         FindingsWeb x = two();
         x.hint(1, 1, 3, 0);
@@ -238,6 +265,20 @@ public final class OddsTest {
         Check.due("no NODE", x.likely(-1), FindingsWeb.BAD);
         x.told(1, 0);
         likely(x, 0, 0);
+    }
+
+    /** A WORLD whose WEIGHT is 1. */
+    private static void promise19FactorsOfOne() {
+        FindingsWeb x = Check.web("node 2 9 9;node 2 0 9", "row 0 0 11 1 0;row 1 0 9 3 0;row 1 1 1 11 0;told 1 0");
+        likely(x, 0, 0);
+        x.told(0, 1);
+        likely(x, 1, 0);
+        Check.due("one twelfth of one twelfth", x.weight(), 1);
+        Check.fraction("of a WEIGHT of 1", x.odds(0, 1, 0), x.odds(0, 1, 1), 1, 1);
+        Check.fraction("of a WEIGHT of 1", x.tells(0, 1, 0), x.tells(0, 1, 1), 1, 1);
+        x.told(0, -1);
+        x.hint(0, 0, 1, 0);
+        likely(x, 1, 0);
     }
 
     private static void promise19Ties() {

@@ -6,6 +6,7 @@ public final class OrdersTest {
         promise24Cluster();
         promise24Ties();
         promise24Order();
+        promise24Anew();
         promise24NothingInCommon();
         promise25Cost();
         promise25WrongSheets();
@@ -76,6 +77,20 @@ public final class OrdersTest {
     private static void promise24Order() {
         FindingsWeb x = Check.web("node 2 9 9;node 2 9 9;node 2 0 9;node 2 1 9;node 2 2 3");
         clusters(x, new int[][] {{5, -1, 0}, {10, 2, 8}, {28, 0, 4}});
+    }
+
+    /** Each call tells of the web as it is then. */
+    private static void promise24Anew() {
+        FindingsWeb x = Check.web("node 2 9 9;node 2 0 9");
+        clusters(x, new int[][] {{3, -1, 0}});
+        x.node(2, 0, 1, -1);
+        clusters(x, new int[][] {{3, -1, 0}, {6, 0, 2}});
+        x.done(1, 0);
+        clusters(x, new int[][] {{1, -1, 0}, {6, 0, 0}});
+        x.done(2, 0);
+        clusters(x, new int[][] {{1, -1, 0}, {2, 0, 0}, {4, 0, 0}});
+        x.done(1, -1);
+        clusters(x, new int[][] {{3, -1, 0}, {4, 0, 0}});
     }
 
     private static void promise24NothingInCommon() {

@@ -69,7 +69,9 @@ public final class TextTest {
             {"node 2 123 9", 7}, {"node 2 009 9", 7}, {"node 2 9 9; x", 12}, {"node 2 9 9;told 0", 17},
             {"123", 0}, {"node 2 9 9\n", 10}, {"node\t2 9 9", 4}, {"told 0 1; hint 0 1 1", 20}, {"row 0 0 6 6", 11},
             {"told 0 1 ; done 0 000", 18}, {"\u00ff", 0}, {"sum 2 0 9 9 9", 10}, {"done 0 1hint", 8},
-            {"told 0 1;12", 9}, {"hintnode 0 1 1 1", 0}, {"told 0 1;nodes 2 9 9", 9}, {"told 0 1 123", 9}};
+            {"told 0 1;12", 9}, {"hintnode 0 1 1 1", 0}, {"told 0 1;nodes 2 9 9", 9}, {"told 0 1 123", 9},
+            {"xode 2 9 9", 0}, {"nodz 2 9 9", 0}, {"nodez 2 9 9", 0}, {"nodea 2 9 9", 0}, {"node` 2 9 9", 4}, {"node{ 2 9 9", 4},
+            {"node 2/9 9", 6}, {"node 2:9 9", 6}, {"dold 0 1", 0}, {"a", 0}, {"z", 0}};
         for (Object[] f : faults) {
             FindingsWeb x = new FindingsWeb();
             Check.due("\"" + f[0] + "\"", Check.read(x, (String) f[0]), -100 - (Integer) f[1]);
