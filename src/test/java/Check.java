@@ -4,6 +4,8 @@ import java.nio.charset.StandardCharsets;
 final class Check {
     private static int right;
     private static int wrong;
+    private static String label = "";
+    private static boolean quiet;
 
     private Check() { }
 
@@ -13,7 +15,21 @@ final class Check {
             return;
         }
         wrong++;
-        System.out.println(what + " answered " + got + ", due is " + want);
+        if (!quiet) System.out.println(label + what + " answered " + got + ", due is " + want);
+    }
+
+    /** What each line about a wrong answer begins with from here on. */
+    static void under(String newLabel) {
+        label = newLabel;
+    }
+
+    /** Counts only, for classes that are wrong on purpose. */
+    static void beQuiet() {
+        quiet = true;
+    }
+
+    static int wrong() {
+        return wrong;
     }
 
     /** A fraction that is told line by line, by a call that answers one. */
