@@ -150,6 +150,11 @@ final class SentencesOfCutOff {
             .breaks(EVIDENCE, "below |= 1 << i;", "below = 1 << node | 1 << i;\n                if (i > node + 1) below = 0;")
             .breaks(EVIDENCE, "i < size;", "i <= node + 1;")
             .breaks(EVIDENCE, "i < size;", "i <= node;");
+        s.of(20, WAY, "one below it, behind another one", () -> Run.of("node 2 0 -1 -1;node 2 0 -1 -1;node 2 0 0 1")
+            .due(3, "node 2 0 2 -1").due(4, "node 2 0 2 -1").due(5, "node 2 0 3 -1").due(6, "node 2 0 4 -1").due(1, "apart 0 1")
+            .due(NONE, "told 4 0").due(0, "apart 0 1", "told 4 -1").due(NONE, "told 5 0").due(0, "apart 0 1", "told 5 -1")
+            .due(1, "apart 0 1").due(0, "hint 6 1 0 0", "apart 0 1"))
+            .breaks(EVIDENCE, "below |= 1 << i;", "below = 1 << i;");
         s.of(20, WAY, "one below it by its second PARENT", () -> Run.of(BELOW, "node 2 0 4 2;told 5 1").due(0, "apart 0 1")
             .due(NONE, "done 3 0").due(0, "apart 0 1"))
             .breaks(heedsAny, " || n.q != NONE && (parents >> n.q & 1) != 0", "");
@@ -162,6 +167,11 @@ final class SentencesOfCutOff {
             () -> Run.of(BELOW, "node 2 0 0 -1;node 2 0 -1 -1;told 5 0;told 6 1;hint 0 1 2 0;hint 1 1 2 0")
                 .due(1, "apart 0 1", "apart 1 0"))
             .breaks(EVIDENCE, "if ((below >> i & 1) != 0 && nodes", "if (nodes");
+        s.of(20, WAY, "not what has two PARENTS that aren't below it",
+            () -> Run.of("node 2 0 -1 -1;node 2 0 -1 -1;node 2 0 0 1;node 2 0 -1 -1;node 2 0 0 3;told 4 1")
+                .due(1, "apart 0 1", "apart 1 3").due(0, "apart 0 3", "apart 2 3"))
+            .breaks(heedsAny, "n.q != NONE && (", "n.q != NONE || (")
+            .breaks(heedsAny, "(parents >> n.q & 1)", "(parents | n.q & 1)");
     }
 
     private static void tells(Sentences s) {

@@ -339,6 +339,11 @@ final class SentencesOfDraws {
             .breaks("void begin(int newSize", "doneTo = NONE;", "")
             .breaks("void begin(int newSize", "setHints(1, 1, 1);", "")
             .breaks("void begin(int newSize", "kind = newKind;", "kind |= newKind;");
+        s.of(30, IMAGE, "new ones of another KIND", () -> Run.of(TWO).due(2, "image", "node 3 0 0 1").due(1, "row 2 0 1 2 9")
+            .due(2, "back", "node 3 1 0 1").due(NONE, "told 0 0", "told 1 0").fraction(1, 1, "odds 2 0").fraction(0, 1, "odds 2 2")
+            .due(2, "back", "node 3 0 1 0").due(4, "cell 2 0 0", "cell 2 5 2"))
+            .breaks("private void beginRow(", "setRow(row, 0, 0, 0);", "")
+            .breaks("private void beginRow(", "setRow(row, WHOLE / VALUES,", "if (cells[row * VALUES] == 0) setRow(row, WHOLE / VALUES,");
         s.of(30, IMAGE, "neither SHEETS nor THE TAPE", () -> Run.of(TWO).fills(0, 0, 5).due(1, "feed 65").due(2, "image")
             .due(1, "put 0 0 6").due(2, "feed 66").due(2, "back").items(0, 6).due(2, "count 4"))
             .breaks("public int back(", "web.become(kept);", "web.become(kept);\n        tape.size = 0;")

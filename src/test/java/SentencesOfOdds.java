@@ -380,6 +380,16 @@ final class SentencesOfOdds {
             .due(1, "of 1 5").fraction(1, 1, "odds 1 1").fraction(1, 4, "would 1 0 0 0"))
             .breaks(would, "thought.nodes[other].doneTo = w;", "web.nodes[other].doneTo = w;\n        thought.become(web);")
             .breaks(would, ".doneTo = w;", ".doneTo = thought.nodes[other].doneTo == NONE ? w : thought.nodes[other].doneTo;");
+        s.of(17, words, "of NODES with two PARENTS, of three values", () -> {
+            StringBuilder rows = new StringBuilder("node 3 0 -1 -1;node 3 0 -1 -1;node 3 0 0 1;node 3 3 2 0");
+            for (int row = 0; row < 9; row++) rows.append(";row 2 " + row + " " + row + " 0 " + (12 - row));
+            Run.of(rows + ";told 0 1;told 1 1").fraction(1, 3, "would 3 2 2 0").fraction(1, 1, "would 2 2 3 0").due(1, "told 1 2")
+                .fraction(5, 12, "would 3 1 2 0", "without 0 2 0").fraction(1, 3, "without 1 2 0");
+        })
+            .breaks("void become(Node other)", "p = other.p;", "")
+            .breaks("void become(Node other)", "q = other.q;", "")
+            .breaks("void become(Node other)", "rowsOfP = other.rowsOfP;", "")
+            .breaks("void become(Node other)", "size = other.size;", "");
         s.of(17, words, "it forgets what was thought before", () -> Run.of(TWO).fraction(1, 1, "would 0 0 1 0")
             .fraction(1, 4, "would 1 0 0 0").due(NONE, "told 1 0").fraction(1, 4, "would 1 0 0 0")
             .fraction(1, 1, "would 0 0 0 0"))

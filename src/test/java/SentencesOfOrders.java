@@ -213,6 +213,12 @@ final class SentencesOfOrders {
             .due(2, "cluster 1 1").due(8, "cluster 1 2").due(0, "cluster 2 1").due(4, "cluster 2 2"))
             .breaks(JOIN, "int shared = Integer.bitCount(clusters[i] & clusters[j]);", "int shared = 1;")
             .breaks(JOIN, "shared <= most", "most != NONE && shared >= most");
+        s.of(24, JOINED, "most in common with the last of those that are in",
+            () -> Run.of("node 2 0 -1 -1;node 2 0 0 -1;node 2 0 0 -1;node 2 0 0 -1;node 2 0 0 3;node 2 0 0 3").due(4, "cluster -1 0")
+                .due(25, "cluster 2 0").due(41, "cluster 3 0").due(0, "cluster 1 1", "cluster 2 1").due(2, "cluster 3 1")
+                .due(9, "cluster 3 2"))
+            .breaks(JOIN, "if (shared <= most) continue;", "if (shared <= most) break;")
+            .breaks(JOIN, "j < size;", "j < size - 2;");
         s.of(24, JOINED, "of several the least one that isn't in",
             () -> Run.of("node 2 0 -1 -1;node 2 0 0 -1;node 2 0 0 -1;node 2 0 0 2;node 2 0 0 2").due(3, "cluster 0 0")
                 .due(13, "cluster 1 0").due(21, "cluster 2 0")

@@ -296,13 +296,16 @@ final class SentencesOfTexts {
             .breaks("private void readToken()", "bytes[at] == ' '", "(bytes[at] == ' ' || bytes[at] == 0)");
         s.of(8, FAULT, "a WORD that is none of these", () -> {
             fault(0, "a 0 1", "tell 0 1", "nod 2 9 9", "table 2 9 9", "film 0", "z", "mos 2 0 9");
+            fault(0, "cold 0 1", "dold 0 1", "gone 0 1", "post 2 0 9", "feast 2 0 9", "tint 0 1 1 1", "now 0 0 6 6 0", "toll 0 1");
             fault(9, "told 0 1;tell 0 1", "told 0 1;a", "told 0 1 tell told 1 1", "told 0 1 a");
             fault(7, "told 0 tell");
         })
             .breaks("private void readToken()", "value = findWord();", "value = Math.max(findWord(), TOLD);")
             .breaks("private void readToken()", "value == NONE ? FALSE_TOKEN : WORD_TOKEN",
                 "value == NONE ? SIGN_TOKEN : WORD_TOKEN")
-            .breaks("private int findWord()", "return NONE;", "return NODE;");
+            .breaks("private int findWord()", "return NONE;", "return NODE;")
+            .breaks("private boolean isRead(", "int i = 0;", "int i = 1;")
+            .breaks("private boolean isRead(", "i < text.length();", "i < text.length() - 1;");
         s.of(8, FAULT, "a NUMBER that is too long, also where none can stand", () -> {
             fault(5, "told 100 1", "told 000 1");
             fault(7, "told 0 100", "told 0 001");

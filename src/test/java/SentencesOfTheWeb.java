@@ -72,6 +72,13 @@ final class SentencesOfTheWeb {
     }
 
     private static void newObject(Sentences s) {
+        s.of(1, "An object is used for at most 512 calls after it has been made;", "the 512th is answered", () -> {
+            Run r = Run.of("node 2 0 -1 -1;node 3 0 0 -1");
+            for (int i = 2; i < 510; i++) r.due(2, "count 0");
+            r.due(NONE, "told 1 2").due(2, "of 1 4");
+        })
+            .breaks("public int count(", "public int count(int what) {",
+                "private int asked;\n    public int count(int what) {\n        if (++asked > 507) return BAD;");
         s.of(1, "No NODES.", "so no number is a NODE's", () -> {
             Run r = Run.of().due(0, "count 0").due(1, "weight");
             r.refuses(BAD, "of 0 0", "told 0 0", "done 0 0", "hint 0 1 1 1", "row 0 0 6 6 0", "cell 0 0 0", "print 0 -1",

@@ -25,11 +25,13 @@ public final class SentencesTest {
         Check.end("SentencesTest");
     }
 
-    /** Text 0 is that of the Terms. */
+    /** Text 0 is that of the Terms, and how long an object is used. */
     private void readDocument() throws IOException {
         String doc = Files.readString(DOC);
         int terms = doc.indexOf("## Terms");
-        keep(0, doc.substring(terms + 8, doc.indexOf("Ahead of the calls", terms)).replace("```text", "").replace("```", ""));
+        int used = doc.indexOf("An object is used");
+        String told = doc.substring(used, doc.indexOf(" what later calls", used)) + doc.substring(terms + 8, doc.indexOf("Ahead of the calls", terms));
+        keep(0, told.replace("```text", "").replace("```", ""));
         Matcher m = Pattern.compile("## Promise (\\d+): [^\\n]*\\n\\s*`[^`]*`:([^#]*)").matcher(doc);
         while (m.find()) keep(Integer.parseInt(m.group(1)), m.group(2));
         Check.due("promises found", texts.size(), PROMISES + 1);
