@@ -14,6 +14,7 @@ public final class FindingsWeb {
     private static final int SHEETS = 4, ITEMS = 40, LONGS = 0, INTS = 1, BYTES = 2;
     private static final int TAPE = 60, BYTE = 255, NUMBERS = 5, NINE = 9;
     private static final int GREAT = 1000;
+    private static final long GREATEST_LONG = 9223372036854775807L;
 
     private final Web web = new Web();
     private final Web kept = new Web();
@@ -145,7 +146,7 @@ public final class FindingsWeb {
         long all = worlds.weighAll(web);
         long made = 1;
         for (int i = 0; i < n; i++) {
-            if (all > 0 && made > Long.MAX_VALUE / all) return NO;
+            if (all > 0 && made > GREATEST_LONG / all) return NO;
             made *= all;
         }
         return made;

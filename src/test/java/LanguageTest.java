@@ -4,6 +4,7 @@ import com.sun.source.tree.CompilationUnitTree;
 import com.sun.source.tree.IdentifierTree;
 import com.sun.source.tree.ImportTree;
 import com.sun.source.tree.LineMap;
+import com.sun.source.tree.LiteralTree;
 import com.sun.source.tree.MemberSelectTree;
 import com.sun.source.tree.MethodInvocationTree;
 import com.sun.source.tree.MethodTree;
@@ -15,8 +16,10 @@ import com.sun.source.util.TreeScanner;
 import com.sun.source.util.Trees;
 import java.io.File;
 import java.io.IOException;
+import java.util.Collections;
 import java.util.EnumSet;
 import java.util.HashMap;
+import java.util.IdentityHashMap;
 import java.util.List;
 import java.util.Map;
 import java.util.Set;
@@ -36,10 +39,13 @@ public final class LanguageTest extends TreeScanner<Void, Void> {
     private static final Set<String> LIBRARY = Set.of("length", "charAt", "append", "setLength", "arraycopy", "fill",
         "bitCount", "min", "max");
     private static final Set<String> OBJECTS = Set.of("equals", "hashCode", "toString");
+    /** Of these only functions are listed: no constant of theirs, such as Long.MAX_VALUE, is in the library. */
+    private static final Set<String> FUNCTIONS = Set.of("Integer", "Long", "Math", "Arrays", "System", "String");
     private static final int DEEPEST = 8;
 
     private final Map<String, Set<String>> calls = new TreeMap<>();
     private final Map<String, MethodTree> methods = new HashMap<>();
+    private final Set<Tree> called = Collections.newSetFromMap(new IdentityHashMap<>());
     private CompilationUnitTree unit;
     private SourcePositions places;
     private LineMap lines;
@@ -117,7 +123,23 @@ public final class LanguageTest extends TreeScanner<Void, Void> {
         String name = called instanceof MemberSelectTree ? ((MemberSelectTree) called).getIdentifier().toString()
             : ((IdentifierTree) called).getName().toString();
         calls.computeIfAbsent(method, k -> new TreeSet<>()).add(name);
+        this.called.add(called);
         return super.visitMethodInvocation(tree, nothing);
+    }
+
+    @Override
+    public Void visitMemberSelect(MemberSelectTree tree, Void nothing) {
+        boolean ofLibrary = FUNCTIONS.contains(tree.getExpression().toString());
+        holds("4: " + tree + " is a function that is called", tree, !ofLibrary || called.contains(tree));
+        return super.visitMemberSelect(tree, nothing);
+    }
+
+    @Override
+    public Void visitLiteral(LiteralTree tree, Void nothing) {
+        Object value = tree.getValue();
+        boolean isText = value instanceof String || value instanceof Character;
+        holds("4: signs are 1 to 127", tree, !isText || String.valueOf(value).chars().allMatch(c -> c >= 1 && c <= 127));
+        return super.visitLiteral(tree, nothing);
     }
 
     @Override

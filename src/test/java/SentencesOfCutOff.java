@@ -172,6 +172,16 @@ final class SentencesOfCutOff {
                 .due(1, "apart 0 1", "apart 1 3").due(0, "apart 0 3", "apart 2 3"))
             .breaks(heedsAny, "n.q != NONE && (", "n.q != NONE || (")
             .breaks(heedsAny, "(parents >> n.q & 1)", "(parents | n.q & 1)");
+        s.of(20, WAY, "not what has PARENTS of lower numbers than it, nor of one lower and one greater", () -> {
+            for (String both : new String[] {"3 0", "0 3", "3 1", "1 3", "1 0", "0 1", "0 -1", "3 -1"}) {
+                Run.of("node 2 0 -1 -1;node 2 0 -1 -1;node 2 0 0 1;node 2 0 -1 -1;node 2 0 -1 -1", "node 2 0 " + both, "hint 5 1 2 0")
+                    .due(both.equals("0 1") || both.equals("1 0") ? 0 : 1, "apart 0 1", "apart 1 0");
+            }
+        })
+            .breaks(heedsAny, "(parents >> n.q & 1) != 0", "(parents >> n.q) != 0")
+            .breaks(heedsAny, "(parents >> n.p & 1) != 0", "(parents >> n.p) != 0")
+            .breaks(heedsAny, "(parents >> n.p & 1)", "(node >> n.p & 1)")
+            .breaks(heedsAny, "(parents >> n.q & 1)", "(node >> n.q & 1)");
     }
 
     private static void tells(Sentences s) {
@@ -194,6 +204,12 @@ final class SentencesOfCutOff {
             .breaks(guesses, "h < web.nodes[node].size;", "h < 2;")
             .breaks(guesses, "x < web.nodes[other].size;", "x < 2;")
             .breaks(guesses, "long most = 0;", "long most = 40;");
+        s.of(21, TELLS, "h has more values than x, x has more than h, the last is the greatest", () -> Run
+            .of("node 3 0 -1 -1;node 2 0 -1 -1;row 0 0 1 2 9").fraction(3, 4, "tells 0 1").fraction(1, 2, "tells 1 0")
+            .due(1, "row 1 0 1 11 0").fraction(3, 4, "tells 0 1").fraction(11, 12, "tells 1 0"))
+            .breaks(guesses, "h < web.nodes[node].size;", "h < web.nodes[other].size;")
+            .breaks(guesses, "h < web.nodes[node].size;", "h < web.nodes[x].size;")
+            .breaks(guesses, "x < web.nodes[other].size;", "x < web.nodes[node].size - 1;");
         s.of(21, TELLS, "of one with a FINDING, of one that is DONE", () -> Run.of(TWO, "told 1 0").fraction(1, 2, "tells 0 1")
             .due(NONE, "done 1 0").fraction(3, 4, "tells 0 1").fraction(1, 1, "tells 1 0").due(0, "told 1 -1")
             .fraction(3, 4, "tells 0 1"))

@@ -10,6 +10,8 @@ final class SentencesOfDraws {
     private static final String CHANCE = "Of m seeds (1 .. 8), SEED and each 1 more (an int), of those that draw a WORLD with all FINDINGS those in which a NODE has a value: a fraction.";
     private static final String IMAGE = "AN IMAGE keeps NODES with all that is told of them.";
     private static final String TWO = "node 2 0 -1 -1;node 3 0 0 -1;row 0 0 3 9 0;row 1 1 1 2 9";
+    /** All seven NODES, none with PARENTS. */
+    private static final String SEVEN = "node 2 0 -1 -1" + ";node 2 0 -1 -1".repeat(6);
     private static final int[] SEEDS = {0, 1, 2, 3, 6, -1, -7, 12345, Integer.MAX_VALUE, Integer.MIN_VALUE};
     private static final String DRAW = "void draw(Web web, int seed)";
     private static final String DRAW_ONE = "private int drawOne(";
@@ -155,6 +157,15 @@ final class SentencesOfDraws {
             .breaks("boolean fitsFindings(", "finding != NONE && finding != world[i]", "finding > 0 && finding != world[i]")
             .breaks("boolean fitsFindings(", "int i = 0;", "int i = 1;")
             .breaks(chance, "fit++;", "fit = m;");
+        s.of(27, CHANCE, "those with all FINDINGS, of the seventh NODE, too", () -> {
+            int fit = 0;
+            for (int seed = 0; seed < 8; seed++) fit += mark(seed, 6) < 6 ? 1 : 0;
+            Check.that("some of these seeds draw a 0, some a 1", fit > 0 && fit < 8);
+            Run.of(SEVEN, "told 6 0").fraction(1, 1, "chance 0 8 6 0").fraction(0, 1, "chance 0 8 6 1").due(0, "told 6 -1")
+                .due(fit / java.math.BigInteger.valueOf(fit).gcd(java.math.BigInteger.valueOf(8)).intValue(), "chance 0 8 6 0 0");
+        })
+            .breaks("boolean fitsFindings(", "i < web.size;", "i <= web.size;")
+            .breaks("boolean fitsFindings(", "i < web.size;", "i < web.size - 1;");
         s.of(27, CHANCE, "a fraction, in lowest terms", () -> Run.of("node 2 0 -1 -1;node 3 0 -1 -1;done 0 1")
             .fraction(1, 1, "chance 0 8 0 1").fraction(0, 1, "chance 0 8 0 0").due(1, "done 0 -1")
             .fraction(1, 2, "chance 0 4 0 1"))
@@ -211,6 +222,10 @@ final class SentencesOfDraws {
             .breaks(film, "s.become(INTS, web.size);", "s.become(INTS, NODES);")
             .breaks(film, "return web.size;", "return web.size - 1;")
             .breaks(film, "s.set(i, worlds.likeliest[i]);", "s.set(i, worlds.likeliest[0]);");
+        s.of(28, words, "of seven NODES", () -> Run.of(SEVEN, "told 6 1;told 2 1").due(7, "film 0").items(0, 0, 0, 1, 0, 0, 0, 1)
+            .due(7, "lay 0 1").due(1, "of 6 4"))
+            .breaks(film, "i < web.size;", "i <= web.size;")
+            .breaks(film, "i < web.size;", "i < web.size - 1;");
         s.of(28, words, "of no NODES", () -> Run.of("sheet 1 0 3").due(0, "film 0", "film 1").items(0).items(1).due(0, "lay 0 1"))
             .breaks(film, "Sheet s = sheets[sheet];", "if (web.size == 0) return 0;\n        Sheet s = sheets[sheet];");
         s.of(28, words, "truly: what comes then doesn't change it", () -> Run.of(TWO).due(2, "film 0").due(NONE, "told 1 0")
@@ -245,6 +260,10 @@ final class SentencesOfDraws {
             .breaks(lay, "return web.countFindings();", "return web.size;")
             .breaks(lay, "int i = 0;", "int i = 1;")
             .breaks("int countFindings()", "finding != NONE", "finding > 0");
+        s.of(29, words, "of seven NODES", () -> Run.of(SEVEN).fills(3, 0, 0, -1, 1, -1, 0, -1, 1).due(4, "lay 3 0")
+            .due(1, "of 6 4", "of 2 4").due(NONE, "of 5 4"))
+            .breaks(lay, "i < web.size;", "i <= web.size;")
+            .breaks(lay, "i < web.size;", "i < web.size - 1;");
         s.of(29, words, "of no NODES", () -> Run.of("sheet 0 0 0;sheet 1 1 1").due(0, "lay 0 0").refuses(STATE, "lay 1 1"))
             .breaks(lay, "if (!tellsValues(s)) return STATE;", "if (!tellsValues(s) || s.size == 0) return STATE;")
             .breaks("private boolean tellsValues(", "s.size != web.size", "s.size < web.size");
@@ -392,6 +411,12 @@ final class SentencesOfDraws {
             .breaks("int countDone()", "doneTo != NONE", "doneTo > 0")
             .breaks("int countFindings()", "finding != NONE", "finding > 0")
             .breaks("int countHinted()", "isHinted()", "hints[0] != 1");
+        s.of(32, words, "of the last NODE alone, of all but the first", () -> Run
+            .of("node 2 0 -1 -1;node 2 0 -1 -1;node 3 0 -1 -1;told 2 0;done 2 2;hint 2 0 0 1").due(1, "count 1", "count 2", "count 3")
+            .due(NONE, "told 1 1", "done 1 0").due(0, "hint 1 1 2 0").due(2, "count 1", "count 2", "count 3"))
+            .breaks("int countFindings()", "nodes[i]", "nodes[found]")
+            .breaks("int countDone()", "nodes[i]", "nodes[found]")
+            .breaks("int countHinted()", "nodes[i]", "nodes[found]");
         s.of(32, words, "of seven NODES of SIZE 3",
             () -> Run.of("node 3 0 -1 -1;node 3 0 0 -1;node 3 0 1 0;node 3 0 2 1;node 3 0 3 2;node 3 0 4 3;node 3 0 5 4")
                 .due(7, "count 0").due(11, "count 5").due(2187, "count 6"))

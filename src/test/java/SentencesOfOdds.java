@@ -15,6 +15,9 @@ final class SentencesOfOdds {
     private static final String NOTHING = TWO + ";hint 0 0 0 0";
     private static final String GREATEST = "2147483647", LEAST = "-2147483648";
 
+    /** All seven NODES, each of two values as likely as each other, none with PARENTS. */
+    private static final String SEVEN = "node 2 0 -1 -1" + ";node 2 0 -1 -1".repeat(6);
+
     private SentencesOfOdds() { }
 
     static void tell(Sentences s) {
@@ -182,13 +185,13 @@ final class SentencesOfOdds {
             Run.of("node 2 0 -1 -1;node 2 0 -1 -1;row 0 0 4 8 0;hint 0 4 0 0;row 1 0 8 4 0;hint 1 1 0 0").due(128, "weight")
                 .due(1L << 56, "power 8").refuses(NO, "power 9");
         })
-            .breaks("public long power(", "made > Long.MAX_VALUE / all", "made > Long.MAX_VALUE / all / 2")
-            .breaks("public long power(", "if (all > 0 && made > Long.MAX_VALUE / all) return NO;", "")
-            .breaks("public long power(", "made > Long.MAX_VALUE / all", "made > Long.MAX_VALUE / all + 1");
+            .breaks("public long power(", "made > GREATEST_LONG / all", "made > GREATEST_LONG / all / 2")
+            .breaks("public long power(", "if (all > 0 && made > GREATEST_LONG / all) return NO;", "")
+            .breaks("public long power(", "made > GREATEST_LONG / all", "made > GREATEST_LONG / all + 1");
         s.of(13, "it isn't a long.", "far above all longs", () -> Run.of(TWO).due(184884258895036416L, "power 8")
             .refuses(NO, "power 9").due(NONE, "told 1 0").due(72, "weight").due(51998697814228992L, "power 9"))
-            .breaks("public long power(", "if (all > 0 && made > Long.MAX_VALUE / all) return NO;", "")
-            .breaks("public long power(", "made > Long.MAX_VALUE / all", "made * all < 0");
+            .breaks("public long power(", "if (all > 0 && made > GREATEST_LONG / all) return NO;", "")
+            .breaks("public long power(", "made > GREATEST_LONG / all", "made * all < 0");
     }
 
     private static void fractions(Sentences s) {
@@ -271,6 +274,11 @@ final class SentencesOfOdds {
             .breaks("long weighBoth(", "if (node == other && v != w) return 0;", "")
             .breaks(both, "if (!web.hasValue(node, v)", "if (node == other) return NO;\n        if (!web.hasValue(node, v)")
             .breaks("long weighBoth(", "node == other && v != w", "node == other");
+        s.of(15, words, "of seven NODES: most NODES' numbers are no values", () -> Run.of(SEVEN)
+            .fraction(1, 4, "both 6 0 0 0", "both 0 0 6 0", "both 5 1 4 1").fraction(1, 2, "both 3 1 3 1").fraction(0, 1, "both 6 0 6 1")
+            .refuses(NO, "both 0 6 0 0 0", "both 1 2 1 0 0", "both 0 0 0 6 0", "both 1 0 1 2 1"))
+            .breaks(both, "!web.hasValue(node, v)", "!web.hasValue(v, node)")
+            .breaks(both, "!web.hasValue(other, w)", "!web.hasValue(w, other)");
         s.of(15, "NO: a number;", "NODES", () -> none("both -1 0 1 0 0", "both 2 0 1 0 0", "both 0 0 -1 0 0", "both 0 0 2 0 1",
             "both 7 0 7 0 0", "both 0 0 " + GREATEST + " 0 0", "both " + LEAST + " 0 0 0 0"))
             .breaks(both, "!web.hasValue(node, v)", "node < 0 || node >= NODES || !web.nodes[node].has(v)")
@@ -309,6 +317,11 @@ final class SentencesOfOdds {
             .breaks("private boolean tellsValues(", "s.items[i] < NONE", "s.items[i] < 0")
             .breaks(shown, "(int) s.items[i];", "Math.max((int) s.items[i], 0);")
             .breaks("private static long weighFrom(", "w.wanted[i] != NONE && ", "");
+        s.of(16, words, "of seven NODES", () -> Run.of(SEVEN).fills(0, 2, 0, 1, 0, 1, 0, 1, 0).fraction(1, 128, "shown 0")
+            .fills(0, 1, -1, -1, -1, -1, -1, -1, 1).fraction(1, 2, "shown 0").due(NONE, "told 6 0").fraction(0, 1, "shown 0"))
+            .breaks(shown, "i < web.size;", "i <= web.size;")
+            .breaks(shown, "i < web.size;", "i < web.size - 1;")
+            .breaks("private boolean tellsValues(", "i < web.size;", "i <= web.size;");
         s.of(16, words, "of no NODES", () -> Run.of().fills(3, 0).fraction(1, 1, "shown 3").fills(2, 1, 0)
             .refuses(NO, "shown 2 0"))
             .breaks(shown, "if (s.isMissing()", "if (web.size == 0) return NO;\n        if (s.isMissing()")

@@ -261,6 +261,11 @@ final class SentencesOfOrders {
             .breaks(cost, "leaving.leave(k, (int) s.items[k]);", "leaving.leave(k, k);")
             .breaks(cost, "leaving.begin(web);", "leaving.leaveByLeastFill(web);")
             .breaks(cost, "leaving.leave(k, (int) s.items[k]);", "leaving.leave(k, (int) s.items[web.size - 1 - k]);");
+        s.of(25, words, "of all seven NODES", () -> Run.of("node 2 0 -1 -1" + ";node 2 0 0 -1".repeat(6))
+            .fills(0, 1, 0, 1, 2, 3, 4, 5, 6).due(254, "cost 0").fills(1, 2, 6, 5, 4, 3, 2, 1, 0).due(26, "cost 1", "cost -1"))
+            .breaks(cost, "k < web.size;", "k <= web.size;")
+            .breaks(cost, "k < web.size;", "k < web.size - 1;")
+            .breaks("private boolean tellsEachNodeOnce(", "i < web.size;", "i < web.size - 1;");
         s.of(25, words, "of no NODES", () -> Run.of("sheet 2 1 0").due(0, "cost 2"))
             .breaks("private boolean tellsEachNodeOnce(", "if (s.size != web.size) return false;",
                 "if (s.size != web.size || s.size == 0) return false;");

@@ -80,6 +80,13 @@ final class SentencesOfTexts {
         s.of(8, "(but THE TAPE, where told)", "it is empty, whatever was refused", () -> Run.of(WEB)
             .reads("told 2 0;node 4 9 9", 0).due(0, "count 4").reads("told 0 1;", -109).due(0, "count 4", "count 1"))
             .breaks("public int text(", "tape.size = 0;", "if (answer > 0) tape.size = 0;");
+        s.of(8, words, "empty: bytes of an earlier one don't count", () -> Run.of(WEB).reads("toldtold", -100).reads("told", -104)
+            .reads("told 0 19", 0).reads("told 0 1", 1).due(1, "of 0 4").reads("told 0 0;told 1 0", 2).reads("told 0 1", 1)
+            .due(0, "of 1 4").reads("told 0    ", -110).reads("told 0", -106))
+            .breaks("private void readToken()", "while (at < size && isLetter(bytes[at]))", "while (at < TAPE && isLetter(bytes[at]))")
+            .breaks("private void readNumber()", "at < size", "at < TAPE")
+            .breaks("private void readToken()", "while (at < size && bytes[at] == ' ')", "while (at < TAPE && bytes[at] == ' ')")
+            .breaks("private void readToken()", "if (at >= size) {", "if (at >= TAPE || bytes[at] == 0) {");
         s.of(8, words, "how many CLAUSES: one, six", () -> Run.of(WEB).reads("told 0 1", 1)
             .reads("told 0 1;told 0 0;told 0 9;done 1 2;done 1 0;done 1 9", 6))
             .breaks("public int text(", "answer++;", "answer = 1;")
@@ -100,6 +107,9 @@ final class SentencesOfTexts {
             .breaks("private boolean isRead(", "text.length() != at - begin", "text.length() > at - begin")
             .breaks("private boolean isRead(", "for (int i = 0; i < text.length(); i++)",
                 "for (int i = 1; i < text.length() - 1; i++)");
+        s.of(8, TOKENS, "a WORD, a NUMBER of all 60 bytes", () -> fault(0, "z".repeat(60), "told".repeat(15), "1".repeat(60)))
+            .breaks("private void readToken()", "while (at < size && isLetter(bytes[at]))", "while (isLetter(bytes[at]))")
+            .breaks("private void readNumber()", "at < size && ", "");
         s.of(8, TOKENS, "a .. z: just what is ahead of a begins none, just what is behind z, too", () -> {
             fault(0, "tolda 0 1", "toldz 0 1", "atold 0 1", "ztold 0 1");
             fault(4, "told` 0 1", "told{ 0 1", "toldA 0 1", "toldZ 0 1", "told_0 1");
